@@ -820,7 +820,7 @@ public final class GrainHouse {
         /** Hours that a bin could run in place of one that it has (NONE: one more). */
         private void reachBy(int bin, int from) {
             int fresh = open[bin] & ~on[bin] & ~seen;
-            for (int h = 0; h < HOURS; h++) {
+            for (int h = 0; h < HOURS && fresh >> h != 0; h++) {
                 if ((fresh >> h & 1) != 0) {
                     reach(h, bin, from);
                 }

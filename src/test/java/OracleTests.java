@@ -26,6 +26,10 @@ public final class OracleTests {
             run(seed, new Lists(new Random(seed)));
             run(seed, new Anything(new Random(seed)));
         }
+        // rare plans, in which power that a bin left for another hour is looked at again
+        for (int seed : new int[] {1067, 4216, 5540, 5891}) {
+            run(seed, new Fans(new Random(seed)));
+        }
         System.out.println(calls + " calls, " + wrong + " answers are not as due");
         if (wrong != 0) {
             System.exit(1);
@@ -49,6 +53,7 @@ public final class OracleTests {
         final SlowHouse y = new SlowHouse();
         final Random r;
         int n = 0;
+        int most = 512;
         String fault = null;
 
         Player(Random r) {
@@ -58,7 +63,7 @@ public final class OracleTests {
         abstract void turn();
 
         void play() {
-            for (int i = 0; i < 512 && n < 512 && fault == null; i++) {
+            for (int i = 0; i < most && n < most && fault == null; i++) {
                 turn();
             }
         }
@@ -218,7 +223,7 @@ public final class OracleTests {
             int had = (int) y.about(9);
             StringBuilder padded = new StringBuilder(text);
             while (padded.length() % 20 != 0) {
-                padded.append('@');
+                padded.append("x7; @".charAt(r.nextInt(5)));
             }
             for (int i = 0; i < padded.length(); i += 20) {
                 feed(four(padded, i), four(padded, i + 4), four(padded, i + 8), four(padded, i + 12),
@@ -300,15 +305,12 @@ public final class OracleTests {
 
         Trucks(Random r) {
             super(r);
+            // the slow house tries 5040 orders a time, so few turns are enough
+            most = 120;
         }
 
         @Override
         void turn() {
-            // the slow house tries 5040 orders a time, so few turns are enough
-            if (n > 120) {
-                n = 512;
-                return;
-            }
             switch (r.nextInt(8)) {
                 case 0:
                     if (r.nextInt(3) == 0) {
@@ -343,6 +345,7 @@ public final class OracleTests {
 
         Fans(Random r) {
             super(r);
+            most = 150;
         }
 
         @Override
@@ -352,10 +355,6 @@ public final class OracleTests {
                     hour(h, r.nextInt(3) != 0, r.nextInt(prices));
                 }
                 needs(-1, 1 + r.nextInt(4), 77);
-            }
-            if (n > 90) {
-                n = 512;
-                return;
             }
             switch (r.nextInt(6)) {
                 case 0:
@@ -387,14 +386,11 @@ public final class OracleTests {
 
         Blends(Random r) {
             super(r);
+            most = 200;
         }
 
         @Override
         void turn() {
-            if (n > 150) {
-                n = 512;
-                return;
-            }
             switch (r.nextInt(5)) {
                 case 0:
                 case 1:
@@ -767,6 +763,7 @@ public final class OracleTests {
 
         private int bestWaits;
         private int[] bestOrder;
+        private String orderedFor = "";
 
         private void orders(List<Integer> order) {
             if (order.size() == trucks.size()) {
@@ -805,8 +802,13 @@ public final class OracleTests {
         }
 
         int rush() {
-            bestOrder = null;
-            orders(new ArrayList<>());
+            StringBuilder state = new StringBuilder().append(unload).append(' ').append(change);
+            trucks.forEach(truck -> state.append(Arrays.toString(truck)));
+            if (!state.toString().equals(orderedFor)) {
+                bestOrder = null;
+                orders(new ArrayList<>());
+                orderedFor = state.toString();
+            }
             return bestWaits;
         }
 
@@ -853,7 +855,20 @@ public final class OracleTests {
         }
 
         private static final int NO_PLAN = 1000000;
+        /** By how many hours: the sets of hours, hour 0 on ahead of off, then hour 1, and so on. */
+        private static final List<List<Integer>> SETS = new ArrayList<>();
+
+        static {
+            for (int n = 0; n <= 12; n++) {
+                SETS.add(new ArrayList<>());
+            }
+            for (int turned = 4095; turned >= 0; turned--) {
+                SETS.get(Integer.bitCount(turned)).add(Integer.reverse(turned) >>> 20);
+            }
+        }
+
         private final Map<Long, Integer> cheapest = new HashMap<>();
+        private String reckonedFor = "";
 
         /** The least cost for this bin and those behind it, if hour h has been used by its digit in base 9. */
         private int cheapest(int bin, long usedHours) {
@@ -864,7 +879,7 @@ public final class OracleTests {
             Integer known = cheapest.get(key);
             if (known == null) {
                 known = NO_PLAN;
-                for (int set = 0; set < 4096; set++) {
+                for (int set : SETS.get(hours[bin])) {
                     long then = with(bin, set, usedHours);
                     if (then >= 0) {
                         known = Math.min(known, priceOf(set) + cheapest(bin + 1, then));
@@ -884,7 +899,7 @@ public final class OracleTests {
         }
 
         private long with(int bin, int set, long usedHours) {
-            if (Integer.bitCount(set) != hours[bin] || set >> ahead[bin] != 0) {
+            if (set >> ahead[bin] != 0) {
                 return -1;
             }
             long unit = 1;
@@ -902,7 +917,12 @@ public final class OracleTests {
         }
 
         int fans() {
-            cheapest.clear();
+            String state = Arrays.toString(hours) + Arrays.toString(ahead) + Arrays.toString(cost)
+                    + Arrays.toString(dryHour) + power;
+            if (!state.equals(reckonedFor)) {
+                cheapest.clear();
+                reckonedFor = state;
+            }
             int least = cheapest(0, 0);
             return least >= NO_PLAN ? -1 : least;
         }
@@ -922,11 +942,9 @@ public final class OracleTests {
             return -1;
         }
 
-        /** Hour 0 on is ahead of off, then hour 1: the highest of the sets read with hour 0 in front. */
         private int firstSet(int bin, long usedHours) {
             int least = cheapest(bin, usedHours);
-            for (int turned = 4095; turned >= 0; turned--) {
-                int set = Integer.reverse(turned) >>> 20;
+            for (int set : SETS.get(hours[bin])) {
                 long then = with(bin, set, usedHours);
                 if (then >= 0 && priceOf(set) + cheapest(bin + 1, then) == least) {
                     return set;
