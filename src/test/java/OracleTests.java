@@ -26,10 +26,6 @@ public final class OracleTests {
             run(seed, new Lists(new Random(seed)));
             run(seed, new Anything(new Random(seed)));
         }
-        // rare plans, in which power that a bin left for another hour is looked at again
-        for (int seed : new int[] {1067, 4216, 5540, 5891}) {
-            run(seed, new Fans(new Random(seed)));
-        }
         System.out.println(calls + " calls, " + wrong + " answers are not as due");
         if (wrong != 0) {
             System.exit(1);

@@ -152,7 +152,7 @@ public final class RuleTests {
     private static void objects(String source) {
         for (String line : source.split("\n")) {
             if (line.contains("new ")) {
-                boolean field = line.matches(" {4,8}(private )?(final )?[\\w\\[\\]]+ \\w+ = new [\\w]+[\\[(].*;");
+                boolean field = line.matches(" {4,8}(private |final )+[\\w\\[\\]]+ \\w+ = new [\\w]+[\\[(].*;");
                 rule(12, field, "made outside a field: " + line.trim());
             }
         }
