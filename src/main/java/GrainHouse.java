@@ -575,6 +575,8 @@ public final class GrainHouse {
     /** The trucks and the order in which they wait least. */
     private static final class Rush {
         private static final int MOST = 7;
+        /** Above all waits that there can be. */
+        private static final int ENDLESS = 1000000000;
 
         private final int[] minute = new int[MOST];
         private final int[] kind = new int[MOST];
@@ -630,7 +632,7 @@ public final class GrainHouse {
 
         int waits() {
             if (!known) {
-                least = Integer.MAX_VALUE;
+                least = ENDLESS;
                 tryAll(0, 0, 0, 0);
                 setEmpty();
                 known = true;
@@ -912,6 +914,8 @@ public final class GrainHouse {
         private static final int MOST_BINS = 4;
         private static final int MOST_TONS = 20;
         private static final int ROW = MOST_TONS + 1;
+        /** Above all grams of a blend. */
+        private static final long NO_BLEND = 1000000000000L;
 
         private final int[] from = new int[MOST_BINS];
         private final int[] most = new int[MOST_BINS];
@@ -940,9 +944,9 @@ public final class GrainHouse {
 
         long best(Bins bins, int q, int moist) {
             reckon(bins, q);
-            leastGrams = Long.MAX_VALUE;
+            leastGrams = NO_BLEND;
             tryAll(q, (1000L - moist) * 1000L * q);
-            if (leastGrams == Long.MAX_VALUE) {
+            if (leastGrams == NO_BLEND) {
                 return NONE;
             }
             for (int bin = 0; bin < BINS; bin++) {

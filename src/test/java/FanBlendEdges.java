@@ -224,6 +224,26 @@ public final class FanBlendEdges {
         duePlan(y, 8, 1, 2, 4, 8, 16, 32, 64, 128);
         y.needs(7, 1, 1);
         duePlan(y, 8, 2, 4, 8, 16, 32, 64, 128, 1);
+        GrainHouse z = dryIn(7);
+        z.hour(2, true, 0);
+        z.needs(0, 2, 3);
+        z.needs(1, 1, 3);
+        z.needs(2, 1, 3);
+        duePlan(z, 2, 3, 4, 4);
+        z.needs(3, 1, 3);
+        duePlan(z, 3, 3, 1, 4, 4);
+        GrainHouse free = dryIn(0);
+        for (int h = 0; h < 4; h++) {
+            free.hour(h, true, 0);
+        }
+        free.needs(-1, 1, 0);
+        free.needs(0, 2, 12);
+        free.needs(1, 2, 3);
+        duePlan(free, 0, 9, 6);
+        free.needs(1, 1, 1);
+        duePlan(free, 0, 6, 1);
+        free.needs(2, 1, 3);
+        duePlan(free, 0, 10, 1, 4);
     }
 
     // ---- Terms III: blends
@@ -537,6 +557,12 @@ public final class FanBlendEdges {
         due("moist MIN", x.blend(1, 1, 1, MIN), -1);
         due("moist MAX", x.blend(1, 1, 1, MAX), -1);
         due("none was told", x.blended(0), -1);
+        GrainHouse y = new GrainHouse();
+        y.leg(0, 1, 1);
+        y.load(0, 1, 1334, 249, 0);
+        y.dry(0, 1, 667, 0);
+        y.dry(0, 1, 667, 0);
+        due("moist -1, though a ton has more than 1001 kg of dry", y.blend(1, 2, 1, -1), -1);
     }
 
     @Says(at = "22", words = "none of the BINS has the KIND,")
@@ -580,6 +606,11 @@ public final class FanBlendEdges {
         due("too wet by far", x.blend(1, 3, 1, 0), -1);
         due("3 dry ones", x.blend(1, 3, 3, 100), 2700000);
         due("4 are too wet", x.blend(1, 3, 4, 100), -1);
+        GrainHouse y = tons(3, 3, 3, 3);
+        due("all 12 of four bins", y.blend(1, 15, 12, 250), 9000000);
+        due("too wet", y.blend(1, 15, 12, 249), -1);
+        due("13", y.blend(1, 15, 13, 1000), -1);
+        due("one that is too wet", y.blend(1, 15, 1, 99), -1);
     }
 
     // ---- Promise 23

@@ -843,6 +843,12 @@ public final class GrainEdges {
         x.leg(9, 1, 1);
         due("two ends that don't meet", x.way(0, 0, 1), -1);
         due("a bin without a leg", x.way(0, 0, 7), -1);
+        x.leg(0, 7, 1);
+        for (int bin = 0; bin < 8; bin += 7) {
+            due("another way was asked for before", x.way(0, 7 - bin, bin), 1);
+            due("and there is none to bin 1", x.way(0, 7 - bin, 1), -1);
+            due("nor to bin 2", x.wayLeg(0, 7 - bin, 2, 0), -1);
+        }
     }
 
     @Says(at = "6", words = "others,")
@@ -1189,15 +1195,18 @@ public final class GrainEdges {
                 x.load(0, 0, 40000, 0, bin);
             }
         }
-        due("shipped", x.about(6), 0);
-        due("in all bins", x.about(7), 3840000000L);
-        due("of all loads", x.about(8), 3840000000L);
-        for (int bin = 0; bin < 8; bin++) {
-            x.ship(bin, 480000);
+        for (int bin = 4; bin < 8; bin++) {
+            x.load(0, 0, 20000, 0, bin);
         }
-        due("shipped then", x.about(6), 3840000000L);
+        due("shipped", x.about(6), 0);
+        due("in all bins", x.about(7), 3920000000L);
+        due("of all 100 loads", x.about(8), 3920000000L);
+        for (int bin = 0; bin < 8; bin++) {
+            x.ship(bin, bin < 4 ? 480000 : 500000);
+        }
+        due("shipped then", x.about(6), 3920000000L);
         due("in all bins then", x.about(7), 0);
-        due("of all loads then", x.about(8), 3840000000L);
+        due("of all loads then", x.about(8), 3920000000L);
     }
 
     @Says(at = "30", words = "9 bytes of the tape,")

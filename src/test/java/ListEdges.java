@@ -65,6 +65,9 @@ public final class ListEdges {
         good("price 0 1;" + " ".repeat(180) + "price 1 1;", 2);
         good(" ".repeat(200), 0);
         faulty(" ".repeat(199) + "?", 1, 199);
+        faulty(" ".repeat(195) + "price", 1, 200);
+        faulty(" ".repeat(193) + "price 1", 1, 200);
+        faulty(" ".repeat(191) + "price 1 1", 1, 200);
     }
 
     @Says(at = "IV", words = "TOKENS, blanks (32) aside:")
@@ -431,6 +434,21 @@ public final class ListEdges {
         due("one less", x.end(10), 10);
         due("list", x.list(), -1);
         due("the end", x.fault(1), 10);
+        write(x, "price 0 70;");
+        x.end(9);
+        x.list();
+        due("a number ends with the tape", x.fault(1), 9);
+        write(x, "price 0 70;");
+        x.end(4);
+        x.list();
+        due("so does a word", x.fault(1), 0);
+        write(x, "pricex");
+        x.end(5);
+        x.list();
+        due("and a longer one", x.fault(1), 5);
+        write(x, "     ?");
+        x.end(5);
+        due("so do blanks", x.list(), 0);
         write(x, "??");
         due("none", x.end(0), 0);
         due("list", x.list(), 0);
@@ -516,6 +534,9 @@ public final class ListEdges {
         due("still of the latest", x.fault(0), 4);
         x.list();
         due("without again", x.fault(0), 0);
+        list(x, "?");
+        x.list();
+        due("without, of an empty tape behind a fault", x.fault(0), 0);
     }
 
     @Says(at = "27", words = "1 its place (NONE without).")
@@ -531,6 +552,9 @@ public final class ListEdges {
         due("at the end", x.fault(1), 200);
         list(x, "price 1 1;");
         due("without again", x.fault(1), -1);
+        list(x, "?");
+        x.list();
+        due("without, of an empty tape behind a fault", x.fault(1), -1);
     }
 
     @Says(at = "27", words = "NONE for others,")

@@ -186,6 +186,11 @@ public final class RushEdges {
         x.truck(101, 0, 9);
         due("the pit stays free for the heavy one", x.rush(), 11);
         dueOrder(x, 1, 0);
+        x.gone();
+        x.truck(0, 0, 1);
+        x.truck(3, 0, 2);
+        due("13 by 1 is one less than 7 by 2", x.rush(), 13);
+        dueOrder(x, 1, 0);
         GrainHouse y = ofKinds(0, 1, 0, 1);
         due("kinds stay together", y.rush(), 65);
         dueOrder(y, 0, 2, 1, 3);
