@@ -14,21 +14,13 @@ public final class ListEdges {
         Edges.due(what, got, want);
     }
 
-    private static int four(String text, int at) {
-        int sum = 0;
-        for (int i = at; i < at + 4; i++) {
-            sum = sum << 8 | (i < text.length() ? text.charAt(i) & 255 : 'x');
-        }
-        return sum;
+    private static int four(String text) {
+        return TapeWriter.four(text, 0);
     }
 
-    /** Puts a text behind the tape, to the byte. */
     private static void write(GrainHouse x, String text) {
-        int had = (int) x.about(9);
-        for (int i = 0; i < text.length(); i += 20) {
-            x.feed(four(text, i), four(text, i + 4), four(text, i + 8), four(text, i + 12), four(text, i + 16));
-        }
-        due("end() behind " + text, x.end(had + text.length()), had + text.length());
+        int due = (int) x.about(9) + text.length();
+        due("end() behind " + text, TapeWriter.write(x, text), due);
     }
 
     private static int list(GrainHouse x, String text) {
@@ -363,9 +355,9 @@ public final class ListEdges {
     @Says(at = "24", words = "Twenty bytes come behind the tape,")
     private static void feedComesBehind() {
         GrainHouse x = ton(0);
-        x.feed(four("pric", 0), four("e 1 ", 0), four("77  ", 0), four("    ", 0), four("    ", 0));
+        x.feed(four("pric"), four("e 1 "), four("77  "), four("    "), four("    "));
         x.end(10);
-        x.feed(four("88;p", 0), four("rice", 0), four(" 0 3", 0), four("    ", 0), four("  ; ", 0));
+        x.feed(four("88;p"), four("rice"), four(" 0 3"), four("    "), four("  ; "));
         due("bytes", x.about(9), 30);
         due("list", x.list(), 2);
         due("7788 a ton", x.worth(0), 7788);
@@ -374,7 +366,7 @@ public final class ListEdges {
     @Says(at = "24", words = "the highest of a first:")
     private static void feedFromTheHighestByte() {
         GrainHouse x = ton(0);
-        x.feed(four("pric", 0), four("e 1 ", 0), four("9876", 0), four("; pr", 0), four("ice ", 0));
+        x.feed(four("pric"), four("e 1 "), four("9876"), four("; pr"), four("ice "));
         x.end(14);
         due("list", x.list(), 1);
         due("9876 a ton", x.worth(0), 9876);

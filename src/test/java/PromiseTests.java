@@ -64,21 +64,13 @@ public final class PromiseTests {
         return new GrainHouse();
     }
 
-    private static int four(String text, int at) {
-        int sum = 0;
-        for (int i = at; i < at + 4; i++) {
-            sum = sum << 8 | (i < text.length() ? text.charAt(i) & 255 : ' ');
-        }
-        return sum;
+    private static int four(String text) {
+        return TapeWriter.four(text, 0);
     }
 
-    /** Puts a text behind the tape, to the byte. */
     private static void write(GrainHouse x, String text) {
-        int had = (int) x.about(9);
-        for (int i = 0; i < text.length(); i += 20) {
-            x.feed(four(text, i), four(text, i + 4), four(text, i + 8), four(text, i + 12), four(text, i + 16));
-        }
-        due("end() behind " + text, x.end(had + text.length()), had + text.length());
+        int due = (int) x.about(9) + text.length();
+        due("end() behind " + text, TapeWriter.write(x, text), due);
     }
 
     private static int list(GrainHouse x, String text) {
@@ -822,7 +814,7 @@ public final class PromiseTests {
 
     private static void promise24Feed() {
         GrainHouse x = house(24);
-        due("feed", x.feed(four("dock", 0), four("9  1", 0), four(";doc", 0), four("k9 2", 0), four(";@@@", 0)), 20);
+        due("feed", x.feed(four("dock"), four("9  1"), four(";doc"), four("k9 2"), four(";@@@")), 20);
         due("end(17)", x.end(17), 17);
         due("list()", x.list(), -1);
         due("the highest byte is first", x.fault(0), 2);
