@@ -13,13 +13,8 @@ import java.util.regex.Pattern;
 
 /** The rules of LANGUAGE.md that a look at the source and at the compiled class can tell. */
 public final class RuleTests {
-    private static final String FACE = "boolean holds(int,int); int load(int,int,int,int,int); int leg(int,int,int); "
-            + "boolean cleaning(int); int way(int,int,int); int wayLeg(int,int,int,int); int move(int,int,int); "
-            + "int dry(int,int,int,int); long ship(int,int); int binOf(int,int); long dryIn(int); "
-            + "int truck(int,int,int); boolean pit(int,int); int rush(); int served(int,int); int gone(); "
-            + "boolean hour(int,boolean,int); boolean needs(int,int,int); int fans(); int fansOf(int); "
-            + "long blend(int,int,int,int); int blended(int); int feed(int,int,int,int,int); int end(int); int list(); "
-            + "int fault(int); int worth(int); long account(int,int); long about(int)";
+    private static final Pattern CALL = Pattern.compile("public (int|long|boolean) (\\w+)\\((.*)\\);");
+    private static final Pattern CONSTANT = Pattern.compile("public static final int (\\w+) = (-?\\d+);");
     private static final String[] BARRED = {"throw", "throws", "try", "catch", "finally", "synchronized", "assert",
         "import", "package", "protected", "Object", "System.out", "Exact", "random", "equals", "hashCode"};
 
@@ -27,7 +22,9 @@ public final class RuleTests {
 
     public static void main(String[] args) throws IOException, IllegalAccessException {
         String source = plain(Files.readString(Path.of("src/main/java/GrainHouse.java")));
-        face();
+        String face = face();
+        calls(face);
+        members(face);
         classes();
         words(source);
         methods(source);
@@ -52,19 +49,31 @@ public final class RuleTests {
         return m.replaceAll(found -> found.group().startsWith("\"") ? "\"\"" : found.group().replaceAll("[^\n]", " "));
     }
 
+    /** The document's chapter of that name. */
+    private static String face() throws IOException {
+        String document = Files.readString(Path.of("../shared/DOC.md"));
+        int from = document.indexOf("## The public face");
+        int to = document.indexOf("\n## ", from + 1);
+        return from < 0 || to < 0 ? "" : document.substring(from, to);
+    }
+
     private static Set<String> names() {
         Set<String> names = new TreeSet<>();
-        Matcher m = Pattern.compile("(\\w+)\\(").matcher(FACE);
-        while (m.find()) {
-            names.add(m.group(1));
+        for (Method method : GrainHouse.class.getDeclaredMethods()) {
+            if (Modifier.isPublic(method.getModifiers())) {
+                names.add(method.getName());
+            }
         }
         return names;
     }
 
-    private static void face() {
-        int modifiers = GrainHouse.class.getModifiers();
-        rule(1, Modifier.isPublic(modifiers) && Modifier.isFinal(modifiers), "the class is public and final");
-        Set<String> due = new TreeSet<>(Set.of(FACE.split("; ")));
+    private static void calls(String face) {
+        Set<String> due = new TreeSet<>();
+        Matcher m = CALL.matcher(face);
+        while (m.find()) {
+            String types = m.group(3).replaceAll(" \\w+(,|$)", "$1").replace(" ", "");
+            due.add(m.group(1) + " " + m.group(2) + "(" + types + ")");
+        }
         Set<String> found = new TreeSet<>();
         for (Method method : GrainHouse.class.getDeclaredMethods()) {
             if (!Modifier.isPrivate(method.getModifiers())) {
@@ -74,13 +83,30 @@ public final class RuleTests {
                 }
                 found.add(text + ")");
                 rule(1, Modifier.isPublic(method.getModifiers()), method + " is public");
+                rule(1, !Modifier.isStatic(method.getModifiers()), method + " is of an object");
             }
         }
-        rule(1, found.equals(due), "the face is " + found);
-        for (Field field : GrainHouse.class.getDeclaredFields()) {
-            boolean isNone = field.getName().equals("NONE") && Modifier.isPublic(field.getModifiers());
-            rule(1, isNone || Modifier.isPrivate(field.getModifiers()), field + " is private");
+        rule(1, found.size() > 0 && found.equals(due), "the face is " + found + ", due is " + due);
+    }
+
+    private static void members(String face) throws IllegalAccessException {
+        int modifiers = GrainHouse.class.getModifiers();
+        rule(1, Modifier.isPublic(modifiers) && Modifier.isFinal(modifiers), "the class is public and final");
+        Set<String> due = new TreeSet<>();
+        Matcher m = CONSTANT.matcher(face);
+        while (m.find()) {
+            due.add(m.group(1) + " = " + m.group(2));
         }
+        Set<String> found = new TreeSet<>();
+        for (Field field : GrainHouse.class.getDeclaredFields()) {
+            if (!Modifier.isPrivate(field.getModifiers())) {
+                boolean constant = Modifier.isStatic(field.getModifiers()) && Modifier.isFinal(field.getModifiers());
+                boolean open = constant && Modifier.isPublic(field.getModifiers());
+                rule(1, open && field.getType() == int.class, field + " is a public constant");
+                found.add(field.getName() + " = " + (open ? field.get(null) : "none"));
+            }
+        }
+        rule(1, found.size() > 0 && found.equals(due), "the constants are " + found + ", due is " + due);
         Constructor<?>[] makers = GrainHouse.class.getDeclaredConstructors();
         boolean one = makers.length == 1 && makers[0].getParameterCount() == 0;
         rule(1, one && Modifier.isPublic(makers[0].getModifiers()), "one public constructor");
